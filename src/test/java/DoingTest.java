@@ -29,84 +29,26 @@ public final class DoingTest {
         Checks.close();
     }
 
-    private static void strike(KeyMatrix x, int key, int ticks) {
-        x.press(key, true);
-        x.tick(ticks);
-        x.press(key, false);
-        x.tick(1);
-    }
-
-    private static void down(KeyMatrix x, int... keys) {
-        for (int key : keys) {
-            x.press(key, true);
-            x.tick(1);
-        }
-    }
-
-    private static void up(KeyMatrix x, int... keys) {
-        for (int key : keys) {
-            x.press(key, false);
-            x.tick(1);
-        }
-    }
-
-    private static void does(KeyMatrix x, int key, int kind, int which) {
-        Checks.due("does(" + key + ", 0)", x.does(key, 0), kind);
-        Checks.due("does(" + key + ", 1)", x.does(key, 1), which);
-    }
-
-    private static void sent(KeyMatrix x, int mods, int... codes) {
-        Checks.due("sent(0)", x.sent(0), mods);
-        Checks.due("sent(1)", x.sent(1), codes.length);
-        for (int i = 0; i < codes.length; i++) {
-            Checks.due("sent(" + (2 + i) + ")", x.sent(2 + i), codes[i]);
-        }
-        Checks.due("sent of one more", x.sent(2 + codes.length), -1);
-        Checks.due("sent(-1)", x.sent(-1), -1);
-        Checks.due("sent of the least", x.sent(Integer.MIN_VALUE), -1);
-    }
-
-    private static void report(KeyMatrix x, int i, int tick, int mods, int... codes) {
-        String name = "report(" + i + ", ";
-        Checks.due(name + "0)", x.report(i, 0), tick);
-        Checks.due(name + "1)", x.report(i, 1), mods);
-        Checks.due(name + "2)", x.report(i, 2), codes.length);
-        for (int k = 0; k < codes.length; k++) {
-            Checks.due(name + (3 + k) + ")", x.report(i, 3 + k), codes[k]);
-        }
-        Checks.due(name + "one more)", x.report(i, 3 + codes.length), -1);
-        Checks.due(name + "-1)", x.report(i, -1), -1);
-    }
-
-    private static void host(KeyMatrix x, int latest, int since, int repeats, int ofLatest) {
-        Checks.due("host(0)", x.host(0), latest);
-        Checks.due("host(1)", x.host(1), since);
-        Checks.due("host(2)", x.host(2), repeats);
-        Checks.due("host(3)", x.host(3), ofLatest);
-        Checks.due("host(4)", x.host(4), -2);
-        Checks.due("host(-1)", x.host(-1), -2);
-    }
-
     private static void layers() {
         KeyMatrix x = Checks.board("board 1 4;bounce 1;key 0 0 layer 1;key 0 1 layer 3;key 0 2 code 5;key 1 2 code 6;"
                 + "key 1 3 code 8;key 0 3 code 7;key 3 2 nothing;");
         Checks.due("by layer 0", x.deed(-1, 2, 1), 5);
-        down(x, 0);
-        does(x, 0, 2, 1);
+        Checks.down(x, 0);
+        Checks.does(x, 0, 2, 1);
         Checks.due("layers 0, 1", x.count(4), 3);
         Checks.due("by layer 1", x.deed(-1, 2, 1), 6);
-        down(x, 1);
+        Checks.down(x, 1);
         Checks.due("layers 0, 1, 3", x.count(4), 11);
         Checks.due("nothing on layer 3", x.deed(-1, 2, 0), 4);
         Checks.due("falls through to 1", x.deed(-1, 3, 1), 8);
-        down(x, 3);
-        does(x, 3, 0, 8);
-        up(x, 0, 1);
+        Checks.down(x, 3);
+        Checks.does(x, 3, 0, 8);
+        Checks.up(x, 0, 1);
         Checks.due("layer 0", x.count(4), 1);
-        does(x, 3, 0, 8);
-        sent(x, 0, 8);
-        up(x, 3);
-        does(x, 3, -1, -1);
+        Checks.does(x, 3, 0, 8);
+        Checks.sent(x, 0, 8);
+        Checks.up(x, 3);
+        Checks.does(x, 3, -1, -1);
         Checks.due("does(4, 0)", x.does(4, 0), -2);
         Checks.due("does(-1, 0)", x.does(-1, 0), -2);
         Checks.due("does(0, 2)", x.does(0, 2), -2);
@@ -115,13 +57,13 @@ public final class DoingTest {
 
     private static void toggles() {
         KeyMatrix x = Checks.board("board 1 2;bounce 1;key 0 0 toggle 2;key 0 1 toggle 3;key 3 0 below;");
-        strike(x, 0, 1);
+        Checks.strike(x, 0, 1);
         Checks.due("toggled", x.count(5), 4);
         Checks.due("active", x.count(4), 5);
-        down(x, 1);
-        does(x, 1, -1, -1);
+        Checks.down(x, 1);
+        Checks.does(x, 1, -1, -1);
         Checks.due("both", x.count(5), 12);
-        strike(x, 0, 1);
+        Checks.strike(x, 0, 1);
         Checks.due("one no more", x.count(5), 8);
         Checks.due("no report", x.count(3), 0);
     }
@@ -137,18 +79,18 @@ public final class DoingTest {
         x.tick(1);
         Checks.due("no event", x.event(-1, 0), 0);
         Checks.due("held", x.count(4), 3);
-        does(x, 0, 2, 1);
-        up(x, 0);
+        Checks.does(x, 0, 2, 1);
+        Checks.up(x, 0);
         Checks.due("no more", x.count(4), 1);
-        strike(x, 0, 4);
-        report(x, 1, 12, 0, 9);
-        report(x, 0, 12, 0);
+        Checks.strike(x, 0, 4);
+        Checks.report(x, 1, 12, 0, 9);
+        Checks.report(x, 0, 12, 0);
     }
 
     private static void holdByTimeOfLaterEvents() {
         // UP at the very end of TERM: held, and at once no more, with no report.
         KeyMatrix x = Checks.board(HOLD);
-        strike(x, 0, 5);
+        Checks.strike(x, 0, 5);
         Checks.due("no report", x.count(3), 0);
         Checks.due("layer 0", x.count(4), 1);
         // Another key's DOWN at TERM comes by the held layer.
@@ -157,46 +99,46 @@ public final class DoingTest {
         x.tick(5);
         x.press(1, true);
         x.tick(1);
-        sent(x, 0, 6);
+        Checks.sent(x, 0, 6);
     }
 
     private static void holdByNextKey() {
         KeyMatrix x = Checks.board(HOLD);
-        down(x, 2);
-        down(x, 0);
+        Checks.down(x, 2);
+        Checks.down(x, 0);
         // UP of a key whose DOWN is not among them says nothing.
-        up(x, 2);
+        Checks.up(x, 2);
         Checks.due("waits", x.event(-1, 0), 2);
-        sent(x, 0, 7);
-        down(x, 1);
+        Checks.sent(x, 0, 7);
+        Checks.down(x, 1);
         Checks.due("still waits", x.event(-1, 0), 3);
-        up(x, 1);
+        Checks.up(x, 1);
         Checks.due("worked off", x.event(-1, 0), 0);
-        does(x, 0, 2, 1);
-        report(x, 2, 5, 0);
-        report(x, 1, 5, 0, 6);
-        report(x, 0, 5, 0);
+        Checks.does(x, 0, 2, 1);
+        Checks.report(x, 2, 5, 0);
+        Checks.report(x, 1, 5, 0, 6);
+        Checks.report(x, 0, 5, 0);
         // Tapped, although another went down meanwhile.
         x = Checks.board(HOLD);
-        down(x, 0, 1);
-        up(x, 0);
-        sent(x, 0, 5);
-        report(x, 2, 3, 0, 9);
-        report(x, 1, 3, 0, 9, 5);
-        report(x, 0, 3, 0, 5);
+        Checks.down(x, 0, 1);
+        Checks.up(x, 0);
+        Checks.sent(x, 0, 5);
+        Checks.report(x, 2, 3, 0, 9);
+        Checks.report(x, 1, 3, 0, 9, 5);
+        Checks.report(x, 0, 3, 0, 5);
     }
 
     private static void holdOfMod() {
         KeyMatrix x = Checks.board("board 1 2;bounce 1;term 3;key 0 0 hold 9 mod 7;key 0 1 code 5;");
         x.press(0, true);
         x.tick(4);
-        does(x, 0, 1, 7);
-        sent(x, 128);
-        report(x, 0, 4, 128);
-        up(x, 0);
-        report(x, 0, 5, 0);
-        strike(x, 0, 1);
-        report(x, 1, 7, 0, 9);
+        Checks.does(x, 0, 1, 7);
+        Checks.sent(x, 128);
+        Checks.report(x, 0, 4, 128);
+        Checks.up(x, 0);
+        Checks.report(x, 0, 5, 0);
+        Checks.strike(x, 0, 1);
+        Checks.report(x, 1, 7, 0, 9);
     }
 
     private static final String DOUBLE = "board 1 3;bounce 1;twice 5;key 0 0 double 3 4;key 0 1 code 8;key 0 2 code 7;";
@@ -206,19 +148,19 @@ public final class DoingTest {
         x.press(0, true);
         Checks.due("waits", x.tick(5), 0);
         Checks.due("once", x.tick(1), 1);
-        does(x, 0, 0, 3);
-        up(x, 0);
-        strike(x, 0, 1);
+        Checks.does(x, 0, 0, 3);
+        Checks.up(x, 0);
+        Checks.strike(x, 0, 1);
         Checks.due("waits after UP", x.event(-1, 0), 2);
-        down(x, 0);
-        does(x, 0, 0, 4);
+        Checks.down(x, 0);
+        Checks.does(x, 0, 0, 4);
         Checks.due("all gone", x.event(-1, 0), 0);
-        report(x, 0, 10, 0, 4);
-        up(x, 0);
-        does(x, 0, -1, -1);
+        Checks.report(x, 0, 10, 0, 4);
+        Checks.up(x, 0);
+        Checks.does(x, 0, -1, -1);
         // The second DOWN at TWICE is too late: once, and again a first.
         x = Checks.board(DOUBLE);
-        strike(x, 0, 1);
+        Checks.strike(x, 0, 1);
         x.tick(3);
         x.press(0, true);
         Checks.due("two reports", x.tick(1), 2);
@@ -226,19 +168,19 @@ public final class DoingTest {
         Checks.due("from now on", x.event(0, 2), 6);
         // Another key's DOWN makes it once at once.
         x = Checks.board(DOUBLE);
-        down(x, 0, 1);
-        sent(x, 0, 3, 8);
+        Checks.down(x, 0, 1);
+        Checks.sent(x, 0, 3, 8);
         // Another key's UP does not.
         x = Checks.board(DOUBLE);
-        down(x, 1);
-        down(x, 0);
-        up(x, 1);
+        Checks.down(x, 1);
+        Checks.down(x, 0);
+        Checks.up(x, 1);
         Checks.due("waits", x.event(-1, 0), 2);
     }
 
     private static void doubleTakesOnlyItsOwn() {
         KeyMatrix x = Checks.board(DOUBLE);
-        down(x, 2);
+        Checks.down(x, 2);
         x.press(0, true);
         x.tick(1);
         x.press(0, false);
@@ -247,10 +189,10 @@ public final class DoingTest {
         Checks.due("three wait", x.event(-1, 0), 3);
         x.press(0, true);
         Checks.due("twice, and UP of the other", x.tick(1), 2);
-        report(x, 1, 4, 0, 7, 4);
-        report(x, 0, 4, 0, 4);
-        does(x, 0, 0, 4);
-        does(x, 2, -1, -1);
+        Checks.report(x, 1, 4, 0, 7, 4);
+        Checks.report(x, 0, 4, 0, 4);
+        Checks.does(x, 0, 0, 4);
+        Checks.does(x, 2, -1, -1);
     }
 
     private static final String CHORD = "board 1 4;bounce 1;chording 4;key 0 0 code 1;key 0 1 code 2;key 0 2 code 3;chord 1 0 code 50;";
@@ -264,28 +206,28 @@ public final class DoingTest {
         Checks.due("chord(0, -1)", x.chord(0, -1), -1);
         Checks.due("chord(1, 0)", x.chord(1, 0), -1);
         Checks.due("chord(-2, 0)", x.chord(-2, 0), -1);
-        down(x, 0);
+        Checks.down(x, 0);
         Checks.due("not done", x.chord(0, 2), 0);
         x.tick(2);
         Checks.due("waits", x.event(-1, 0), 1);
-        down(x, 1);
+        Checks.down(x, 1);
         Checks.due("done", x.chord(0, 2), 1);
-        does(x, 0, 0, 50);
-        does(x, 1, 0, 50);
-        report(x, 0, 4, 0, 50);
+        Checks.does(x, 0, 0, 50);
+        Checks.does(x, 1, 0, 50);
+        Checks.report(x, 0, 4, 0, 50);
         Checks.due("one report", x.count(3), 1);
-        up(x, 1);
+        Checks.up(x, 1);
         Checks.due("no more", x.chord(0, 2), 0);
-        does(x, 0, -1, -1);
+        Checks.does(x, 0, -1, -1);
         // The one that was let go is struck again while the other is still down: alone.
         x.press(1, true);
         x.tick(4);
         Checks.due("waits for the other", x.event(-1, 0), 1);
         x.tick(1);
-        does(x, 1, 0, 2);
-        up(x, 0);
-        does(x, 1, 0, 2);
-        sent(x, 0, 2);
+        Checks.does(x, 1, 0, 2);
+        Checks.up(x, 0);
+        Checks.does(x, 1, 0, 2);
+        Checks.sent(x, 0, 2);
         Checks.due("not done", x.chord(0, 2), 0);
     }
 
@@ -296,36 +238,36 @@ public final class DoingTest {
         x.tick(4);
         x.press(1, true);
         Checks.due("the first alone", x.tick(1), 1);
-        sent(x, 0, 1);
+        Checks.sent(x, 0, 1);
         Checks.due("the second waits", x.event(0, 0), 1);
         x.tick(3);
-        sent(x, 0, 1);
+        Checks.sent(x, 0, 1);
         x.tick(1);
-        sent(x, 0, 1, 2);
+        Checks.sent(x, 0, 1, 2);
         // Another event between them: alone.
         x = Checks.board(CHORD);
-        down(x, 0);
-        down(x, 2);
-        sent(x, 0, 1, 3);
+        Checks.down(x, 0);
+        Checks.down(x, 2);
+        Checks.sent(x, 0, 1, 3);
         // UP of itself as well.
         x = Checks.board(CHORD);
-        strike(x, 0, 1);
-        report(x, 1, 2, 0, 1);
-        report(x, 0, 2, 0);
+        Checks.strike(x, 0, 1);
+        Checks.report(x, 1, 2, 0, 1);
+        Checks.report(x, 0, 2, 0);
         // Both in one tick.
         x = Checks.board(CHORD);
         x.press(1, true);
         x.press(0, true);
         Checks.due("together", x.tick(1), 1);
-        sent(x, 0, 50);
+        Checks.sent(x, 0, 50);
         // A key of a chord that is told a hold waits for both.
         x = Checks.board("board 1 2;bounce 1;chording 2;term 5;key 0 0 hold 9 mod 1;chord 0 1 mod 0;");
         x.press(0, true);
         x.tick(5);
         Checks.due("waits", x.event(-1, 0), 1);
         x.tick(1);
-        sent(x, 2);
-        down(x, 1);
+        Checks.sent(x, 2);
+        Checks.down(x, 1);
         Checks.due("no chord any more", x.event(-1, 0), 1);
     }
 
@@ -334,34 +276,34 @@ public final class DoingTest {
         x.press(0, true);
         x.press(1, true);
         Checks.due("four reports", x.tick(1), 4);
-        does(x, 0, -1, -1);
-        does(x, 1, -1, -1);
+        Checks.does(x, 0, -1, -1);
+        Checks.does(x, 1, -1, -1);
         Checks.due("done no more", x.chord(0, 2), 0);
         x = Checks.board("board 1 2;bounce 1;chord 0 1 mod 3;");
         x.press(0, true);
         x.press(1, true);
         x.tick(1);
-        sent(x, 8);
-        does(x, 1, 1, 3);
+        Checks.sent(x, 8);
+        Checks.does(x, 1, 1, 3);
     }
 
     private static void macros() {
         KeyMatrix x = Checks.board("board 1 4;bounce 1;macro 5 5 6;key 0 0 play 0;key 0 1 code 5;key 0 2 mod 1;key 0 3 play 3;");
-        down(x, 2);
+        Checks.down(x, 2);
         x.press(0, true);
         Checks.due("each code comes and goes", x.tick(1), 6);
-        report(x, 5, 2, 2, 5);
-        report(x, 4, 2, 2);
-        report(x, 3, 2, 2, 5);
-        report(x, 1, 2, 2, 6);
-        report(x, 0, 2, 2);
-        does(x, 0, -1, -1);
-        up(x, 0);
-        down(x, 1);
+        Checks.report(x, 5, 2, 2, 5);
+        Checks.report(x, 4, 2, 2);
+        Checks.report(x, 3, 2, 2, 5);
+        Checks.report(x, 1, 2, 2, 6);
+        Checks.report(x, 0, 2, 2);
+        Checks.does(x, 0, -1, -1);
+        Checks.up(x, 0);
+        Checks.down(x, 1);
         x.press(0, true);
         Checks.due("a code that is sent anyway makes none", x.tick(1), 2);
-        report(x, 1, 5, 2, 5, 6);
-        report(x, 0, 5, 2, 5);
+        Checks.report(x, 1, 5, 2, 5, 6);
+        Checks.report(x, 0, 5, 2, 5);
         x.press(3, true);
         Checks.due("a macro that is not told", x.tick(1), 0);
         Checks.due("its event went", x.event(-1, 0), 0);
@@ -369,26 +311,26 @@ public final class DoingTest {
 
     private static void sentOrder() {
         KeyMatrix x = Checks.board("board 1 4;bounce 1;key 0 0 code 30;key 0 1 code 20;key 0 2 code 30;key 0 3 code 10;");
-        down(x, 3, 0, 1, 2);
-        sent(x, 0, 10, 30, 20);
+        Checks.down(x, 3, 0, 1, 2);
+        Checks.sent(x, 0, 10, 30, 20);
         Checks.due("the second 30 is no report", x.count(3), 3);
-        up(x, 0);
-        sent(x, 0, 10, 20, 30);
-        report(x, 0, 5, 0, 10, 20, 30);
-        up(x, 3);
-        sent(x, 0, 20, 30);
+        Checks.up(x, 0);
+        Checks.sent(x, 0, 10, 20, 30);
+        Checks.report(x, 0, 5, 0, 10, 20, 30);
+        Checks.up(x, 3);
+        Checks.sent(x, 0, 20, 30);
         Checks.due("count(3)", x.count(3), 5);
     }
 
     private static void mods() {
         KeyMatrix x = Checks.board("board 1 3;bounce 1;key 0 0 mod 0;key 0 1 mod 7;key 0 2 mod 0;");
-        down(x, 0, 1, 2);
-        sent(x, 129);
-        does(x, 1, 1, 7);
-        up(x, 0);
-        sent(x, 129);
-        up(x, 2);
-        sent(x, 128);
+        Checks.down(x, 0, 1, 2);
+        Checks.sent(x, 129);
+        Checks.does(x, 1, 1, 7);
+        Checks.up(x, 0);
+        Checks.sent(x, 129);
+        Checks.up(x, 2);
+        Checks.sent(x, 128);
         Checks.due("count(3)", x.count(3), 3);
     }
 
@@ -397,25 +339,25 @@ public final class DoingTest {
 
     private static void sixAndOver() {
         KeyMatrix x = Checks.board("board 2 5;diodes;six;" + SEVEN);
-        down(x, 0, 1, 2, 3, 4, 5);
-        report(x, 0, 6, 0, 1, 2, 3, 4, 5, 6);
-        down(x, 6);
+        Checks.down(x, 0, 1, 2, 3, 4, 5);
+        Checks.report(x, 0, 6, 0, 1, 2, 3, 4, 5, 6);
+        Checks.down(x, 6);
         Checks.due("over", x.report(0, 2), -2);
         Checks.due("no codes", x.report(0, 3), -1);
-        sent(x, 0, 1, 2, 3, 4, 5, 6, 7);
+        Checks.sent(x, 0, 1, 2, 3, 4, 5, 6, 7);
         x.press(7, true);
         Checks.due("alike", x.tick(1), 0);
         x.press(8, true);
         Checks.due("other mods", x.tick(1), 1);
         Checks.due("over", x.report(0, 2), -2);
         Checks.due("mods", x.report(0, 1), 4);
-        up(x, 0);
+        Checks.up(x, 0);
         Checks.due("still over", x.count(3), 8);
-        up(x, 1);
-        report(x, 0, 11, 4, 3, 4, 5, 6, 7, 8);
+        Checks.up(x, 1);
+        Checks.report(x, 0, 11, 4, 3, 4, 5, 6, 7, 8);
         x = Checks.board("board 2 5;diodes;" + SEVEN);
-        down(x, 0, 1, 2, 3, 4, 5, 6);
-        report(x, 0, 7, 0, 1, 2, 3, 4, 5, 6, 7);
+        Checks.down(x, 0, 1, 2, 3, 4, 5, 6);
+        Checks.report(x, 0, 7, 0, 1, 2, 3, 4, 5, 6, 7);
     }
 
     private static void allKeysAndAMacro() {
@@ -431,9 +373,9 @@ public final class DoingTest {
         }
         Checks.due("a report each, and four of the macro", x.tick(1), 27);
         codes[23] = 199;
-        report(x, 1, 1, 0, codes);
+        Checks.report(x, 1, 1, 0, codes);
         codes[23] = 200;
-        report(x, 3, 1, 0, codes);
+        Checks.report(x, 3, 1, 0, codes);
         Checks.due("all the codes", x.sent(1), 23);
     }
 
@@ -452,8 +394,8 @@ public final class DoingTest {
         Checks.due("the oldest kept", x.report(39, 0), 2);
         Checks.due("no 41st", x.report(40, 0), -1);
         Checks.due("how many came", x.count(3), 41);
-        report(x, 0, 41, 0, 1);
-        report(x, 1, 40, 0);
+        Checks.report(x, 0, 41, 0, 1);
+        Checks.report(x, 1, 40, 0);
         Checks.due("report(-1, 0)", x.report(-1, 0), -1);
         Checks.due("report of the greatest", x.report(Integer.MAX_VALUE, 2), -1);
         Checks.due("the greatest what", x.report(0, Integer.MAX_VALUE), -1);
@@ -462,68 +404,68 @@ public final class DoingTest {
     // Promise 14
     private static void latest() {
         KeyMatrix x = Checks.board("board 1 4;bounce 1;key 0 0 code 1;key 0 1 code 2;key 0 2 mod 0;key 0 3 code 3;");
-        host(x, -1, -1, 0, -1);
-        down(x, 0);
-        host(x, 1, 1, 0, 0);
-        down(x, 2);
-        host(x, 1, 1, 0, 0);
-        down(x, 1);
-        host(x, 2, 3, 0, 0);
-        up(x, 0);
-        host(x, 2, 3, 0, 0);
-        down(x, 0);
-        host(x, 1, 5, 0, 0);
-        up(x, 0);
-        host(x, -1, -1, 0, -1);
-        down(x, 3);
-        host(x, 3, 7, 0, 0);
+        Checks.host(x, -1, -1, 0, -1);
+        Checks.down(x, 0);
+        Checks.host(x, 1, 1, 0, 0);
+        Checks.down(x, 2);
+        Checks.host(x, 1, 1, 0, 0);
+        Checks.down(x, 1);
+        Checks.host(x, 2, 3, 0, 0);
+        Checks.up(x, 0);
+        Checks.host(x, 2, 3, 0, 0);
+        Checks.down(x, 0);
+        Checks.host(x, 1, 5, 0, 0);
+        Checks.up(x, 0);
+        Checks.host(x, -1, -1, 0, -1);
+        Checks.down(x, 3);
+        Checks.host(x, 3, 7, 0, 0);
     }
 
     private static void latestAfterOver() {
         KeyMatrix x = Checks.board("board 2 5;diodes;six;" + SEVEN);
-        down(x, 0, 1, 2, 3, 4, 5);
-        host(x, 6, 6, 0, 0);
-        down(x, 6);
-        host(x, -1, -1, 0, -1);
-        up(x, 0);
-        host(x, 7, 8, 0, 0);
-        down(x, 0);
-        up(x, 6);
+        Checks.down(x, 0, 1, 2, 3, 4, 5);
+        Checks.host(x, 6, 6, 0, 0);
+        Checks.down(x, 6);
+        Checks.host(x, -1, -1, 0, -1);
+        Checks.up(x, 0);
+        Checks.host(x, 7, 8, 0, 0);
+        Checks.down(x, 0);
+        Checks.up(x, 6);
         // All six are new behind one that is over: the last of them.
-        host(x, 1, 10, 0, 0);
+        Checks.host(x, 1, 10, 0, 0);
     }
 
     private static void repeats() {
         KeyMatrix x = Checks.board("board 1 2;bounce 1;repeat 4 3;key 0 0 code 1;key 0 1 code 2;");
         x.press(0, true);
         x.tick(4);
-        host(x, 1, 1, 0, 0);
+        Checks.host(x, 1, 1, 0, 0);
         x.tick(1);
-        host(x, 1, 1, 1, 1);
+        Checks.host(x, 1, 1, 1, 1);
         x.tick(2);
-        host(x, 1, 1, 1, 1);
+        Checks.host(x, 1, 1, 1, 1);
         x.tick(1);
-        host(x, 1, 1, 2, 2);
+        Checks.host(x, 1, 1, 2, 2);
         x.tick(6);
-        host(x, 1, 1, 4, 4);
-        down(x, 1);
-        host(x, 2, 15, 4, 0);
+        Checks.host(x, 1, 1, 4, 4);
+        Checks.down(x, 1);
+        Checks.host(x, 2, 15, 4, 0);
         x.tick(4);
-        host(x, 2, 15, 5, 1);
-        up(x, 1);
-        host(x, -1, -1, 5, -1);
+        Checks.host(x, 2, 15, 5, 1);
+        Checks.up(x, 1);
+        Checks.host(x, -1, -1, 5, -1);
         x.tick(50);
-        host(x, -1, -1, 5, -1);
+        Checks.host(x, -1, -1, 5, -1);
         x = Checks.board("board 1 1;bounce 1;repeat 1 1;key 0 0 code 1;");
         x.press(0, true);
         x.tick(10);
-        host(x, 1, 1, 9, 9);
+        Checks.host(x, 1, 1, 9, 9);
     }
 
     // Promise 11
     private static void queue() {
         KeyMatrix x = Checks.board(HOLD);
-        down(x, 0, 1);
+        Checks.down(x, 0, 1);
         Checks.due("how many", x.event(-1, 99), 2);
         int[][] events = {{0, 1, 1}, {1, 1, 2}};
         for (int i = 0; i < 2; i++) {
@@ -545,17 +487,17 @@ public final class DoingTest {
         Checks.due("first", x.event(0, 0), 1);
         Checks.due("second", x.event(1, 0), 2);
         Checks.due("third", x.event(2, 0), 3);
-        up(x, 1);
+        Checks.up(x, 1);
         Checks.due("none", x.event(-1, 0), 0);
     }
 
     private static void layerOfWaitingUp() {
         // A layer's key is up before its UP is worked off: "some KEY that is down holds" no longer.
         KeyMatrix x = Checks.board("board 1 2;bounce 1;term 9;key 0 0 layer 1;key 1 1 hold 3 mod 1;key 0 1 code 4;");
-        down(x, 0, 1);
+        Checks.down(x, 0, 1);
         Checks.due("waits", x.event(-1, 0), 1);
-        up(x, 0);
+        Checks.up(x, 0);
         Checks.due("layer 0 alone", x.count(4), 1);
-        sent(x, 0, 4);
+        Checks.sent(x, 0, 4);
     }
 }
