@@ -43,6 +43,7 @@ public final class CallEdgeTest {
         ghostsParts();
         aheadBounds();
         aheadOfWaiting();
+        aheadOfBarred();
         aheadChangesNothing();
         holdBounds();
         holdAnew();
@@ -50,6 +51,9 @@ public final class CallEdgeTest {
         restoreAll();
         restoreKeepsTape();
         restoreAfterTicks();
+        restoreBarred();
+        restoreChord();
+        restoreReports();
         countBounds();
         countEach();
         mostCalls();
@@ -635,6 +639,23 @@ public final class CallEdgeTest {
         Checks.due("HELD at last", last[1], 8);
     }
 
+    private static void aheadOfBarred() {
+        Checks.sentence("If SWITCHES stayed as they are (BARRED ones)");
+        KeyMatrix x = Checks.board("board 2 2;bounce 1;key 0 0 code 1;key 0 3 code 4;");
+        x.press(0, true);
+        Checks.due("not BARRED", x.ahead(1, 2), 1);
+        x.press(1, true);
+        x.press(2, true);
+        Checks.due("BARRED", x.ahead(120, 2), 0);
+        x.press(2, false);
+        Checks.due("no more", x.ahead(1, 2), 1);
+        x.tick(1);
+        x.press(0, false);
+        x.press(2, true);
+        x.press(3, true);
+        Checks.due("BARRED, and down", x.ahead(120, 2), 1);
+    }
+
     private static void aheadChangesNothing() {
         Checks.sentence("If SWITCHES stayed as they are (nothing happens)");
         KeyMatrix x = Checks.board(RICH);
@@ -804,6 +825,77 @@ public final class CallEdgeTest {
         x.press(3, false);
         x.tick(9);
         same("gone on from SLOT 0", told(x), first);
+    }
+
+    private static void restoreBarred() {
+        Checks.sentence("All is as a SLOT holds it (SWITCHES, SEEN and BARRED)");
+        KeyMatrix x = Checks.board("board 2 2;bounce 1;");
+        x.press(0, true);
+        x.press(1, true);
+        x.press(2, true);
+        x.hold(0);
+        x.press(2, false);
+        x.hold(1);
+        x.tick(1);
+        Checks.due("down", x.count(6), 3);
+        int[] closed = {7, 3};
+        int[] seen = {15, 3};
+        int[] barred = {15, 0};
+        for (int slot : new int[] {0, 1, 0}) {
+            Checks.yes("restore(" + slot + ")", x.restore(slot));
+            Checks.due("closed", x.count(7), closed[slot]);
+            Checks.due("SEEN", x.count(8), seen[slot]);
+            Checks.due("BARRED", x.count(9), barred[slot]);
+            x.tick(1);
+            Checks.due("down", x.count(6), slot == 0 ? 0 : 3);
+        }
+    }
+
+    private static void restoreChord() {
+        Checks.sentence("All is as a SLOT holds it (a CHORD that is done)");
+        KeyMatrix x = Checks.board("board 1 3;bounce 1;key 0 2 code 3;chord 0 1 code 50;");
+        x.hold(1);
+        Checks.down(x, 0, 1);
+        x.hold(0);
+        Checks.up(x, 0, 1);
+        Checks.down(x, 2);
+        Checks.yes("restore(0)", x.restore(0));
+        Checks.due("done", x.chord(0, 2), 1);
+        Checks.sent(x, 0, 50);
+        Checks.up(x, 1);
+        Checks.does(x, 0, -1, -1);
+        Checks.sent(x, 0);
+        Checks.yes("restore(1)", x.restore(1));
+        Checks.due("not done", x.chord(0, 2), 0);
+        Checks.does(x, 1, -1, -1);
+    }
+
+    private static void restoreReports() {
+        Checks.sentence("All is as a SLOT holds it (REPORTS, though 40 others came since)");
+        KeyMatrix x = Checks.board("board 1 4;bounce 1;key 0 0 code 1;key 0 1 code 2;key 0 2 mod 7;key 0 3 code 77;");
+        Checks.down(x, 0, 1, 2);
+        Checks.up(x, 0);
+        x.hold(0);
+        Checks.up(x, 1);
+        for (int i = 0; i < 42; i++) {
+            x.press(3, i % 2 == 0);
+            x.tick(1);
+        }
+        x.hold(1);
+        for (int i = 0; i < 2; i++) {
+            Checks.yes("restore(0)", x.restore(0));
+            Checks.report(x, 0, 4, 128, 2);
+            Checks.report(x, 1, 3, 128, 1, 2);
+            Checks.report(x, 2, 2, 0, 1, 2);
+            Checks.report(x, 3, 1, 0, 1);
+            Checks.due("no fifth", x.report(4, 0), -1);
+            Checks.host(x, 2, 2, 0, 0);
+            Checks.yes("restore(1)", x.restore(1));
+            Checks.report(x, 0, 47, 128);
+            Checks.report(x, 1, 46, 128, 77);
+            Checks.report(x, 39, 8, 128, 77);
+            Checks.due("REPORTS", x.count(3), 47);
+        }
     }
 
     private static void countBounds() {

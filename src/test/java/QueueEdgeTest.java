@@ -16,6 +16,7 @@ public final class QueueEdgeTest {
         chordWaits();
         chordOfEitherOrder();
         chordNeedsTheNextEvent();
+        chordNeedsDown();
         chordNeedsItsOwnKey();
         chordElseItsDeed();
         chordThenHold();
@@ -239,6 +240,21 @@ public final class QueueEdgeTest {
         Checks.due("the other waits", x.event(0, 0), 1);
     }
 
+    private static void chordNeedsDown() {
+        Checks.sentence("is the next EVENT behind it DOWN of the CHORD's other KEY (it is UP of that)");
+        KeyMatrix x = Checks.board(chord(3));
+        Checks.down(x, 1);
+        x.tick(3);
+        Checks.sent(x, 0, 2);
+        Checks.down(x, 0);
+        Checks.due("it waits", x.event(-1, 0), 1);
+        Checks.up(x, 1);
+        Checks.sent(x, 0, 1);
+        Checks.report(x, 1, 6, 0, 2, 1);
+        Checks.due("no chord", x.chord(0, 2), 0);
+        Checks.due("EVENTS", x.event(-1, 0), 0);
+    }
+
     private static void chordNeedsItsOwnKey() {
         Checks.sentence("is the next EVENT behind it DOWN of the CHORD's other KEY (a KEY of another CHORD)");
         KeyMatrix x = Checks.board(chord(9));
@@ -453,6 +469,7 @@ public final class QueueEdgeTest {
             Checks.due("REPORTS", x.tick(1), 1);
             Checks.report(x, 0, twice, 0, 4);
             Checks.does(x, 1, 0, 4);
+            Checks.does(x, 0, -1, -1);
             Checks.due("EVENTS", x.event(-1, 0), 0);
         }
     }

@@ -35,6 +35,7 @@ public final class SentEdgeTest {
         latestAnew();
         latestBehindOver();
         latestOfMacro();
+        latestBehindManyReports();
         repeatsFromDelay();
         repeatsEachTick();
         repeatsAtMost();
@@ -418,6 +419,24 @@ public final class SentEdgeTest {
         Checks.host(x, -1, -1, 0, -1);
         x.tick(9);
         Checks.host(x, -1, -1, 0, -1);
+    }
+
+    private static void latestBehindManyReports() {
+        Checks.sentence("a code that the REPORT ahead has not (however many came)");
+        KeyMatrix x = Checks.board("board 1 3;bounce 1;key 0 0 code 1;key 0 1 code 2;key 0 2 mod 0;");
+        // 41 REPORTS, so that where one with codes was kept there is one without.
+        for (int i = 0; i < 20; i++) {
+            Checks.strike(x, 0, 1);
+        }
+        Checks.down(x, 2);
+        for (int i = 0; i < 20; i++) {
+            Checks.down(x, i % 2);
+            Checks.due("the LATEST", x.host(0), 1 + i % 2);
+            Checks.due("since", x.host(1), 42 + 2 * i);
+            Checks.up(x, i % 2);
+            Checks.due("none", x.host(0), -1);
+        }
+        Checks.due("REPORTS", x.count(3), 81);
     }
 
     private static KeyMatrix repeating(int delay, int rate) {

@@ -18,6 +18,7 @@ public final class TextEdgeTest {
         withoutTells();
         boardFirst();
         everyTokenIsNeeded();
+        endedTooEarly();
         noTokenTooMany();
         rowsAndColumns();
         keysOfEveryBoard();
@@ -46,6 +47,9 @@ public final class TextEdgeTest {
         wrongBoardHidesNothing();
         faultKeepsAll();
         goodTextClearsAll();
+        goodTextClearsBarred();
+        goodTextClearsOrder();
+        goodTextTellsAnew();
         goodTextClearsSlots();
         Checks.close();
     }
@@ -208,6 +212,25 @@ public final class TextEdgeTest {
             String cut = "board 1 2;".substring(0, at);
             Checks.fault(cut, 1, at);
             Checks.fault(cut + " ;;", 1, at == 9 ? at + 2 : at + 1);
+        }
+    }
+
+    private static void endedTooEarly() {
+        Checks.sentence("FAULTS of a text, the first by its place (a line's ; too early, and a FAULT behind it)");
+        for (String line : LINES) {
+            int last = line.lastIndexOf(' ');
+            for (int at = line.indexOf(' '); at < last; at = line.indexOf(' ', at + 1)) {
+                String cut = BOARD + line.substring(0, at);
+                boolean good = cut.endsWith("macro 1");
+                for (String behind : new String[] {"foo", "six", "six six;", "bounce 0;x", ";", "!"}) {
+                    int place = behind.equals("six") ? 3 : behind.equals("six six;") ? 4 : behind.equals("bounce 0;x") ? 9 : 0;
+                    Checks.fault(cut + " ;" + behind, 1, cut.length() + (good ? 2 + place : 1));
+                }
+            }
+        }
+        for (String board : new String[] {"board ;", "board 1 ;", ";", "six ;", "board six ;"}) {
+            int place = board.equals("six ;") ? 0 : board.equals("board six ;") ? 6 : board.indexOf(';');
+            Checks.fault(board + "six six;", 1, place);
         }
     }
 
@@ -563,6 +586,11 @@ public final class TextEdgeTest {
         Checks.sentence("else all is as at first but what it tells");
         KeyMatrix x = Checks.board("board 1 4;bounce 2;term 99;twice 9;repeat 1 1;diodes;six;key 0 0 code 7;key 0 1 layer 1;"
                 + "key 0 2 toggle 2;key 0 3 hold 1 mod 1;key 1 3 hold 1 mod 1;macro 5;");
+        x.press(0, true);
+        x.tick(2);
+        x.press(0, false);
+        x.tick(2);
+        Checks.due("a stroke", x.strokes(0, 1), 2);
         Checks.down(x, 0, 1, 2);
         x.tick(9);
         x.press(3, true);
@@ -593,6 +621,65 @@ public final class TextEdgeTest {
         Checks.sent(x, 0);
         Checks.host(x, -1, -1, 0, -1);
         Checks.due("nothing comes", x.tick(50), 0);
+    }
+
+    private static void goodTextClearsBarred() {
+        Checks.sentence("else all is as at first (none is SEEN or BARRED)");
+        for (String diodes : new String[] {"", "diodes;"}) {
+            KeyMatrix x = Checks.board("board 2 2;");
+            x.press(0, true);
+            x.press(1, true);
+            x.press(2, true);
+            Checks.due("BARRED", x.count(9), 15);
+            Checks.retell(x, "board 2 2;bounce 1;" + diodes);
+            Checks.due("SEEN", x.count(8), 0);
+            Checks.due("BARRED", x.count(9), 0);
+            x.press(3, true);
+            Checks.due("SEEN", x.count(8), 8);
+            Checks.due("BARRED", x.count(9), 0);
+            x.tick(1);
+            Checks.due("down", x.count(6), 8);
+        }
+    }
+
+    private static void goodTextClearsOrder() {
+        Checks.sentence("else all is as at first (no KEY does anything)");
+        String text = "board 1 3;bounce 1;chording 1;key 0 0 code 1;key 0 1 code 2;key 0 2 toggle 3;";
+        KeyMatrix x = Checks.board(text + "chord 0 1 code 50;");
+        Checks.down(x, 1, 0);
+        x.tick(1);
+        Checks.sent(x, 0, 2, 1);
+        Checks.strike(x, 2, 1);
+        Checks.retell(x, text);
+        Checks.due("no CHORD", x.chord(-1, 0), 0);
+        Checks.due("TOGGLED", x.count(5), 0);
+        Checks.down(x, 0, 1);
+        Checks.sent(x, 0, 1, 2);
+        Checks.up(x, 0);
+        Checks.sent(x, 0, 2);
+    }
+
+    private static void goodTextTellsAnew() {
+        Checks.sentence("else all is as at first but what it tells (as much as another text told, or less)");
+        KeyMatrix x = Checks.board(BIG + chords(4) + times("macro 1 2 3 4 5 6 7 8;", 4) + "key 1 0 code 5;");
+        Checks.retell(x, BIG + "macro 9;" + "chord 7 1 mod 3;");
+        Checks.due("MACROS", x.count(19), 1);
+        Checks.due("codes", x.macro(0, -1), 1);
+        Checks.due("code", x.macro(0, 0), 9);
+        Checks.due("CHORDS", x.chord(-1, 0), 1);
+        Checks.due("its KEY", x.chord(0, 0), 7);
+        Checks.due("not told", x.deed(1, 0, 0), 5);
+        Checks.retell(x, BIG + times("macro 8 7;", 4) + chords(4));
+        Checks.due("MACROS", x.count(19), 4);
+        Checks.due("codes", x.macro(3, -1), 2);
+        Checks.due("CHORDS", x.chord(-1, 0), 4);
+        // A FAULT in between, whose words stood where none stand now.
+        Checks.fault(x, BIG + chords(4) + "chord 8 9 code 1;", 2, BIG.length() + chords(4).length());
+        Checks.fault(x, BIG + chords(4) + ";", 1, BIG.length() + chords(4).length());
+        Checks.fault(x, BIG + times("macro 1;", 4) + "macro 1;", 2, BIG.length() + 32);
+        Checks.fault(x, BIG + times("macro 1;", 4) + "7", 1, BIG.length() + 32);
+        Checks.fault(x, BIG + times("macro 1;", 4) + "!", 1, BIG.length() + 32);
+        Checks.due("MACROS are as they were", x.macro(3, 1), 7);
     }
 
     private static void goodTextClearsSlots() {
