@@ -17,6 +17,8 @@ public final class TextEdgeTest {
         longestInts();
         withoutTells();
         boardFirst();
+        wordsOfDeeds();
+        wordsBehindHold();
         everyTokenIsNeeded();
         endedTooEarly();
         noTokenTooMany();
@@ -176,17 +178,42 @@ public final class TextEdgeTest {
         Checks.due("COLUMNS", x.count(1), 3);
     }
 
+    private static final String[] TELLS = {"diodes", "six", "bounce", "term", "chording", "twice", "repeat", "key", "chord",
+        "macro"};
+    private static final String[] DEEDS = {"code", "mod", "layer", "toggle", "nothing", "below", "hold", "double", "play"};
+
     private static void boardFirst() {
         Checks.sentence("text: 'board' INT INT ';' {TELL} (first, and once)");
-        String[] tells = {"diodes", "six", "bounce", "term", "chording", "twice", "repeat", "key", "chord", "macro"};
-        for (String word : tells) {
+        for (String word : TELLS) {
             Checks.fault(word + " 1 2;", 1, 0);
         }
-        for (String word : new String[] {"code", "mod", "layer", "toggle", "nothing", "below", "hold", "double", "play"}) {
+        for (String word : DEEDS) {
             Checks.fault(word + " 1 2;", 1, 0);
             Checks.fault(BOARD + word + " 1 2;", 1, 10);
         }
         Checks.fault(BOARD + BOARD, 1, 10);
+    }
+
+    private static void wordsOfDeeds() {
+        Checks.sentence("DEED: 'code' INT | .. | 'play' INT (no other word)");
+        for (String word : TELLS) {
+            Checks.fault(BOARD + "key 0 0 " + word + " 1;", 1, 18);
+            Checks.fault(BOARD + "key 0 0 " + word + ";", 1, 18);
+            Checks.fault(BOARD + "chord 0 1 " + word + " 1;", 1, 20);
+        }
+        Checks.fault(BOARD + "key 0 0 board 1;", 1, 18);
+        Checks.fault(BOARD + "chord 0 1 board 1;", 1, 20);
+    }
+
+    private static void wordsBehindHold() {
+        Checks.sentence("'hold' INT ('layer' | 'mod') INT");
+        for (String word : TELLS) {
+            Checks.fault(BOARD + "key 0 0 hold 1 " + word + " 1;", 1, 25);
+        }
+        for (String word : DEEDS) {
+            boolean good = word.equals("layer") || word.equals("mod");
+            Checks.fault(BOARD + "key 0 0 hold 1 " + word + " 1;", good ? 0 : 1, good ? -1 : 25);
+        }
     }
 
     // All kinds of lines that a text may have, their tokens apart by one blank each.
