@@ -18,11 +18,14 @@ public final class FuzzTest {
         random = new Random(seed);
     }
 
+    /** Without arguments the seeds from 1 on; else the first seed and how many. */
     public static void main(String[] args) {
-        for (int seed = 1; seed <= RUNS; seed++) {
-            new FuzzTest(seed).run();
+        long first = args.length > 0 ? Long.parseLong(args[0]) : 1;
+        int runs = args.length > 1 ? Integer.parseInt(args[1]) : RUNS;
+        for (int i = 0; i < runs; i++) {
+            new FuzzTest(first + i).run();
         }
-        System.out.println(RUNS + " runs are as the model's");
+        System.out.println(runs + " runs are as the model's");
     }
 
     private void run() {
